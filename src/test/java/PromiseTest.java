@@ -324,13 +324,14 @@ public final class PromiseTest {
         }
         due("addStreet(2, 3, 4)", x.addStreet(2, 3, 4), FULL);
         due("addStreet(2, 3, 10)", x.addStreet(2, 3, 10), BAD);
-        x.lay(5, 0, 1, 40);
-        x.park(5, 1, 1, true);
+        write(x, "1/1/" + "jjjjjjjjjjjjjjjjjjjj/jjjjjjjjjjjjjjjjjjjj");
+        due("load(5)", x.load(5), 20);
         x.dropStreet(5);
         due("addStreet(20, 0, 0)", x.addStreet(20, 0, 0), 5);
         due("street(5, 3)", x.street(5, 3), 0);
+        due("street(5, 4)", x.street(5, 4), 0);
         due("street(5, 5)", x.street(5, 5), 0);
-        due("account(0)", x.account(0), 40);
+        due("account(0)", x.account(0), 3600);
     }
 
     private static void dropStreet() {
@@ -454,14 +455,14 @@ public final class PromiseTest {
     private static void street() {
         SweeperRounds x = fresh("11, street");
         due("street(0, 0)", x.street(0, 0), BAD);
-        write(x, "12/3/0a9b/j1c2");
+        write(x, "12/3/0a9b/j1cc");
         x.load(0);
         x.addStreet(1, 2, 3);
         x.addLeg(0, 0);
         x.addLeg(1, 0);
         x.addLeg(0, 0);
         x.addLeg(0, 1);
-        int[] want = {4, 12, 3, 100, 140, 4, 90, 3, BAD};
+        int[] want = {4, 12, 3, 100, 140, 5, 90, 3, BAD};
         for (int i = 0; i < want.length; i++) {
             due("street(0, " + i + ")", x.street(0, i), want[i]);
         }
@@ -733,6 +734,11 @@ public final class PromiseTest {
         due("shift()", x.shift(), 20);
         latests(x, 3, 50 + 6 + 6 + 50, 0, 20, 4, 0);
         due("leg(0, 2) swept to its end", x.leg(0, 2), 2);
+        x.set(3, 2400);
+        x.lay(0, 0, 0, 0);
+        x.lay(0, 0, 1, 23);
+        due("shift() with room for 1 more", x.shift(), 19);
+        latests(x, 0, 50 + 6 + 6 + 50, 0, 19, 1 + 2, 1);
         // Without room from the start, also behind a parked cell.
         x = fresh("16, shift, full from the start");
         x.addStreet(1, 5, 0);
@@ -875,6 +881,20 @@ public final class PromiseTest {
         x.addStreet(1, 0, 0);
         x.lay(1, 1, 0, 9);
         due("rain(100) on two streets", x.rain(100), 98 + 9);
+        x = fresh("18, rain, on 6 streets of 20 cells");
+        write(x, "1/1/" + "99999999999999999999/99999999999999999999");
+        for (int i = 0; i < 6; i++) {
+            x.load(i);
+        }
+        // Each cell loses 45 and gets as much, but for the first one.
+        due("rain(50)", x.rain(50), 6 * 2 * 45);
+        for (int i = 0; i < 6; i++) {
+            due("street(" + i + ", 3)", x.street(i, 3), 45 + 19 * 90);
+            due("street(" + i + ", 4)", x.street(i, 4), 45 + 19 * 90);
+            due("cell(" + i + ", 1, 0, 0)", x.cell(i, 1, 0, 0), 45);
+        }
+        due("nightsTo(99)", x.nightsTo(99), 9);
+        due("night(1)", x.night(1), 6 * 2 * (45 + 19 * 90 + 20));
     }
 
     private static void latest() {
@@ -899,6 +919,23 @@ public final class PromiseTest {
         x.undo();
         x.undo();
         latests(x, NONE, NONE, NONE, NONE, NONE, NONE);
+        x.lay(0, 1, 0, 0);
+        x.addStreet(20, 5, 0);
+        x.addLeg(1, 0);
+        x.set(3, 199);
+        x.shift();
+        // 6 to the end of street 0, 100 to street 1, 7 cells there, 50 to the dump
+        latests(x, 2, 198, 0, 0, 8, 1);
+        due("leg(0, 2)", x.leg(0, 2), 1);
+        due("leg(1, 2)", x.leg(1, 2), 7);
+        x.set(3, 6000);
+        x.shift();
+        latests(x, 0, 276, 0, 0, 21, 2);
+        due("leg(1, 2)", x.leg(1, 2), 20);
+        x.undo();
+        latests(x, 2, 198, 0, 0, 8, 1);
+        due("leg(0, 2) after undo", x.leg(0, 2), 1);
+        due("leg(1, 2) after undo", x.leg(1, 2), 7);
     }
 
     private static void ifSpeed() {
