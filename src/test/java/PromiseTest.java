@@ -1046,6 +1046,17 @@ public final class PromiseTest {
         x.lay(4, 0, 0, 20);
         // 17 + 42, or 42 + 16
         orderOf(x, 17 + 42, 4, 5, 0, 1, 2, 3);
+        x = fresh("22, bestOrder, the last order of all");
+        int[] dirts = {0, 80, 50, 30, 10, 60};
+        for (int i = 0; i < 6; i++) {
+            x.addStreet(1, i < 4 ? 0 : 10, 0);
+            x.addLeg(i, 0);
+            x.lay(i, 0, 0, dirts[i]);
+        }
+        x.set(1, 60);
+        x.set(3, 760);
+        // 51, 8, 1 and to the dump, 24, 36 and to the dump, 11, 49 and to the dump, 25: 748 units
+        orderOf(x, 51 + 8 + 1 + 24 + 36 + 11 + 49 + 25, 5, 4, 3, 2, 1, 0);
     }
 
     private static void orderOf(SweeperRounds x, int load, int... legs) {
