@@ -21,6 +21,7 @@ public final class ChangeBoundsTest extends Sentences {
         othersAreNot();
         idleChangesAreChanges();
         undoRestores();
+        undoRestoresTheLatestShift();
         butNotTheText();
         atMostEightStates();
         oldestIsDropped();
@@ -155,6 +156,40 @@ public final class ChangeBoundsTest extends Sentences {
         }
     }
 
+    private static void undoRestoresTheLatestShift() {
+        SweeperRounds x = says("Each change records the state before it");
+        x.addStreet(1, 0, 0);
+        x.addStreet(1, 10, 0);
+        x.addLeg(0, 0);
+        x.addLeg(1, 0);
+        x.set(0, 1);
+        x.set(1, 20);
+        x.lay(0, 0, 0, 20);
+        x.lay(1, 0, 0, 99);
+        x.set(3, 536);
+        // Full in both streets: 12, 100 to the dump, 150, 12, and no time for 300 there and back.
+        x.shift();
+        int[] first = {3, 12 + 100 + 150 + 12 + 100, 1, 40, 4, 1};
+        latests(x, first);
+        x.dropLeg(0);
+        x.dropLeg(0);
+        int[] second = {0, 0, 0, 0, 0, 0};
+        x.shift();
+        latests(x, second);
+        x.undo();
+        latests(x, first);
+        due("count(11)", x.count(11), 1);
+        x.undo();
+        x.undo();
+        int[][] legs = {{1, 20}, {0, 20}};
+        for (int leg = 0; leg < 2; leg++) {
+            due("leg(" + leg + ", 2)", x.leg(leg, 2), legs[leg][0]);
+            due("leg(" + leg + ", 3)", x.leg(leg, 3), legs[leg][1]);
+        }
+        x.undo();
+        latests(x, NONE, NONE, NONE, NONE, NONE, NONE);
+    }
+
     private static void butNotTheText() {
         SweeperRounds x = says("everything but the text buffer and what faultKind() returns");
         write(x, "1/2/3/4");
@@ -286,7 +321,7 @@ public final class ChangeBoundsTest extends Sentences {
     }
 
     private static void refusedChangesNothingWhenNew() {
-        says("A call that returns an error code changes nothing. (when there is nothing)");
+        says("A call that returns an error code changes nothing.");
         Call[] bad = {x -> x.type(31), x -> x.load(1), x -> x.addStreet(0, 0, 0), x -> x.dropStreet(0), x -> x.lay(0, 0, 0, 0),
             x -> x.park(0, 0, 0, true), x -> x.cell(0, 0, 0, 0), x -> x.street(0, 0), x -> x.set(0, 0), x -> x.addLeg(0, 0),
             x -> x.dropLeg(0), x -> x.leg(0, 0), x -> x.leg(0, 2), x -> x.night(0), x -> x.rain(0), x -> x.latest(6),
@@ -298,7 +333,7 @@ public final class ChangeBoundsTest extends Sentences {
     }
 
     private static void refusedChangesNothingInBetween() {
-        says("A call that returns an error code changes nothing. (when there is something)");
+        says("A call that returns an error code changes nothing.");
         Call[] bad = {x -> x.type(-1), x -> x.load(3), x -> x.load(-1), x -> x.addStreet(21, 0, 0), x -> x.addStreet(1, -1, 0),
             x -> x.addStreet(1, 0, -1), x -> x.dropStreet(2), x -> x.dropStreet(-1), x -> x.lay(0, 0, 3, 5),
             x -> x.lay(0, 0, 0, 100), x -> x.lay(0, 0, 0, -1), x -> x.lay(0, 2, 0, 5), x -> x.lay(2, 0, 0, 5),
@@ -314,7 +349,7 @@ public final class ChangeBoundsTest extends Sentences {
     }
 
     private static void refusedChangesNothingWhenFull() {
-        says("FULL (-3: there is no room). A call that returns an error code changes nothing. (when all is full)");
+        says("and FULL (-3: there is no room)");
         Call[] full = {x -> x.type(32), x -> x.load(6), x -> x.addStreet(1, 0, 0), x -> x.addLeg(0, 0)};
         for (int i = 0; i < full.length; i++) {
             refused("call " + i + " without room", ChangeBoundsTest::fullWorld, full[i], FULL);

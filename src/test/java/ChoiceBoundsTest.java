@@ -370,6 +370,14 @@ public final class ChoiceBoundsTest extends Sentences {
         x.lay(2, 0, 0, 89);
         due("nightsTo(90) beside one where nothing falls", x.nightsTo(90), 8);
         due("nightsTo(89)", x.nightsTo(89), 0);
+        x.dropStreet(2);
+        due("nightsTo(89) without the street of 89", x.nightsTo(89), 7);
+        x.undo();
+        for (int i = 3; i < 6; i++) {
+            x.addStreet(20, 60, i == 5 ? 9 : 0);
+        }
+        x.lay(5, 1, 19, 85);
+        due("nightsTo(90) in the last of six streets", x.nightsTo(90), 1);
     }
 
     private static void nightsToIsWhatNightsDo() {

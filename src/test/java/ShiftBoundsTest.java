@@ -18,6 +18,7 @@ public final class ShiftBoundsTest extends Sentences {
         atMostTenLegs();
         addLegAnswers();
         dropLegAnswers();
+        longestShift();
         inTheirOrder();
         driveFromTheDump();
         driveFromAnotherStreet();
@@ -386,6 +387,29 @@ public final class ShiftBoundsTest extends Sentences {
             due("dropLeg(0)", x.dropLeg(0), left);
         }
         due("dropLeg(0) of none", x.dropLeg(0), BAD);
+    }
+
+    private static void longestShift() {
+        says("A shift has a length of 100 to 6000 units (initially 2400).");
+        for (int units = 5999; units <= 6000; units++) {
+            SweeperRounds x = new SweeperRounds();
+            x.addStreet(20, 60, 0);
+            for (int i = 0; i < 5; i++) {
+                x.addLeg(0, 0);
+            }
+            x.set(0, 1);
+            x.set(1, 20);
+            // Full three times, with 20 and 20 of 60, and with 19 and 1 of the next cell.
+            x.lay(0, 0, 0, 60);
+            x.lay(0, 0, 1, 2);
+            x.set(3, units);
+            // 600 there and back, three ways of 1300, and 900 for 75 sweeps, two of them once more.
+            int sweeps = units == 6000 ? 75 : 74;
+            shiftIs("of " + units, x, 60, 2, 5100 + 12 * sweeps, 3, sweeps + 2, 3);
+            due("leg(2, 2)", x.leg(2, 2), 20);
+            due("leg(3, 2)", x.leg(3, 2), sweeps - 62);
+            due("leg(4, 2)", x.leg(4, 2), 0);
+        }
     }
 
     private static void inTheirOrder() {
@@ -819,7 +843,7 @@ public final class ShiftBoundsTest extends Sentences {
             due("leg(0, 2) over " + one[0] + " in " + one[1], x.leg(0, 2), one[2]);
             due("leg(0, 3) over " + one[0] + " in " + one[1], x.leg(0, 3), one[3]);
             x.set(3, 100);
-            x.shift();
+            shiftIs("without it", x, 0, 1, 0, 0, 0, 0);
             due("leg(0, 2) after a shift without it", x.leg(0, 2), 0);
             due("leg(0, 3) after a shift without it", x.leg(0, 3), 0);
         }

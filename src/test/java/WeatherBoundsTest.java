@@ -205,7 +205,7 @@ public final class WeatherBoundsTest extends Sentences {
     }
 
     private static void drainOfAParkedCell() {
-        says("but get what runs down to them, and what would be more than 99 there is washed away");
+        says("cells that are parked lose nothing, but get what runs down to them .. runs on at once into the drain");
         SweeperRounds x = withDirt(99, 99);
         x.park(0, 0, 1, true);
         due("rain(100) onto a full parked last cell", x.rain(100), 99);
@@ -217,7 +217,8 @@ public final class WeatherBoundsTest extends Sentences {
     }
 
     private static void streetOfOneCell() {
-        says("from cell n - 1 into the drain, also where cell n - 1 is cell 0");
+        says("from cell n - 1 into the drain, where it is washed away");
+        // Here cell n - 1 is cell 0.
         SweeperRounds x = withDirt(99);
         x.lay(0, 1, 0, 51);
         due("rain(50)", x.rain(50), 49 + 25);
